@@ -96,9 +96,9 @@ public final class MarlStore {
     // ---- the pointer
 
     public int point(int document) throws IndexOutOfBoundsException {
-        needDocument(document);
+        Value whole = wholeOf(document);
         pointer.goToWhole(document);
-        return wholes[document].kind;
+        return whole.kind;
     }
 
     public int into(int step) throws IndexOutOfBoundsException {
@@ -143,10 +143,9 @@ public final class MarlStore {
         }
         int before = pointed().size;
         boolean isCounted = kind == TRUTH || kind == NUMBER;
-        editor.begin(wholes[pointer.at]);
-        editor.putAt(pointer.path, pointer.length,
-                new Value(kind, isCounted ? number : NO_NUMBER, null, null));
-        changeTo(pointer.at, editor.whole);
+        Value fresh = new Value(kind, isCounted ? number : NO_NUMBER, null, null);
+        editor.begin(wholeOf(pointer.at));
+        finish(editor.putAt(pointer.path, pointer.length, fresh));
         return before;
     }
 
@@ -156,17 +155,17 @@ public final class MarlStore {
     }
 
     public int paste() {
-        editor.begin(wholes[pointer.at]);
+        editor.begin(wholeOf(pointer.at));
         return finish(editor.putAt(pointer.path, pointer.length, clipped));
     }
 
     public int insert(int step) {
-        editor.begin(wholes[pointer.at]);
+        editor.begin(wholeOf(pointer.at));
         return finish(editor.addAt(pointer.path, pointer.length, step, clipped));
     }
 
     public int drop(int step) {
-        editor.begin(wholes[pointer.at]);
+        editor.begin(wholeOf(pointer.at));
         return finish(editor.dropAt(pointer.path, pointer.length, step));
     }
 
@@ -191,13 +190,11 @@ public final class MarlStore {
     }
 
     public int size(int document) throws IndexOutOfBoundsException {
-        needDocument(document);
-        return wholes[document].size;
+        return wholeOf(document).size;
     }
 
     public int depth(int document) throws IndexOutOfBoundsException {
-        needDocument(document);
-        return wholes[document].depth;
+        return wholeOf(document).depth;
     }
 
     public int clip() {
@@ -207,64 +204,53 @@ public final class MarlStore {
     // ---- patches
 
     public int addPatch() throws IllegalStateException {
-        needRoomForPatch();
-        allPatches[patchCount].clear();
-        patchCount++;
-        return patchCount - 1;
+        return beginPatch();
     }
 
     public int addOperation(int patch, int code, int step)
             throws IndexOutOfBoundsException, IllegalArgumentException, IllegalStateException {
-        needPatch(patch);
+        Patch changed = patchOf(patch);
         boolean isWithStep = code == ADD || code == DROP;
         if (code < ADD || code > TEST || isWithStep && (step < 0 || step > MOST_KEY)) {
             throw new IllegalArgumentException("there is no such code or step");
         }
-        Patch changed = allPatches[patch];
         if (changed.count >= MOST_OPERATIONS) {
             throw new IllegalStateException("the patch is full");
         }
-        changed.append(new Operation(code, Arrays.copyOf(pointer.path, pointer.length),
-                isWithStep ? step : 0, code == DROP ? null : clipped));
+        changed.append(new Operation(code, pointer.pathNow(), isWithStep ? step : 0,
+                code == DROP ? null : clipped));
         return changed.count;
     }
 
     public int apply(int patch, int document) throws IndexOutOfBoundsException {
-        needPatch(patch);
-        needDocument(document);
-        if (tryOut(allPatches[patch], document) != CAN_BE_APPLIED) {
+        Patch applied = patchOf(patch);
+        if (tryOut(applied, wholeOf(document)) != CAN_BE_APPLIED) {
             return -1;
         }
         changeTo(document, editor.whole);
         if (patchCount >= MOST_PATCHES) {
             return -2;
         }
-        writeInverse(allPatches[patch], allPatches[patchCount]);
-        patchCount++;
-        return patchCount - 1;
+        int made = beginPatch();
+        writeInverse(applied, patchOf(made));
+        return made;
     }
 
     public int failsAt(int patch, int document) throws IndexOutOfBoundsException {
-        needPatch(patch);
-        needDocument(document);
-        return tryOut(allPatches[patch], document);
+        Patch tried = patchOf(patch);
+        return tryOut(tried, wholeOf(document));
     }
 
     public int diff(int one, int other) throws IndexOutOfBoundsException, IllegalStateException {
-        needDocument(one);
-        needDocument(other);
-        needRoomForPatch();
-        int count = differ.write(wholes[one], wholes[other]);
+        int count = differ.write(wholeOf(one), wholeOf(other));
         if (count > MOST_OPERATIONS) {
             throw new IllegalStateException("the patch would have too many operations");
         }
-        Patch made = allPatches[patchCount];
-        made.clear();
+        int made = beginPatch();
         for (int i = 0; i < count; i++) {
-            made.append(differ.operationAt(i));
+            patchOf(made).append(differ.operationAt(i));
         }
-        patchCount++;
-        return patchCount - 1;
+        return made;
     }
 
     public int forget() throws IllegalStateException {
@@ -280,14 +266,12 @@ public final class MarlStore {
     }
 
     public int operations(int patch) throws IndexOutOfBoundsException {
-        needPatch(patch);
-        return allPatches[patch].count;
+        return patchOf(patch).count;
     }
 
     public int ofOperation(int patch, int operation, int what)
             throws IndexOutOfBoundsException, IllegalArgumentException {
-        needPatch(patch);
-        Operation asked = allPatches[patch].operationAt(operation);
+        Operation asked = patchOf(patch).operationAt(operation);
         if (asked == null) {
             throw new IndexOutOfBoundsException("there is no such operation");
         }
@@ -300,15 +284,11 @@ public final class MarlStore {
     // ---- differences
 
     public int difference(int one, int other) throws IndexOutOfBoundsException {
-        needDocument(one);
-        needDocument(other);
-        return differ.between(wholes[one], wholes[other], 0, 0);
+        return differ.compare(wholeOf(one), wholeOf(other));
     }
 
     public int changes(int one, int other) throws IndexOutOfBoundsException {
-        needDocument(one);
-        needDocument(other);
-        return differ.write(wholes[one], wholes[other]);
+        return differ.write(wholeOf(one), wholeOf(other));
     }
 
     // ---- schemas
@@ -323,12 +303,11 @@ public final class MarlStore {
 
     public int setKinds(int schema, int kinds, int low, int high)
             throws IndexOutOfBoundsException, IllegalArgumentException {
-        needSchema(schema);
+        Schema changed = schemaOf(schema);
         if (kinds < 0 || kinds > ALL_KINDS || low < -MOST_NUMBER || low > MOST_NUMBER
                 || high < low || high > MOST_NUMBER) {
             throw new IllegalArgumentException("the kinds or the range are wrong");
         }
-        Schema changed = schemas[schema];
         int before = changed.kinds;
         changed.kinds = kinds;
         changed.low = low;
@@ -338,17 +317,16 @@ public final class MarlStore {
 
     public int setChildren(int schema, int least, int most, int item, int rest)
             throws IndexOutOfBoundsException, IllegalArgumentException {
-        needSchema(schema);
+        Schema changed = schemaOf(schema);
         if (item != ANYTHING) {
-            needSchema(item);
+            schemaOf(item);
         }
         if (rest != ANYTHING && rest != FORBIDDEN) {
-            needSchema(rest);
+            schemaOf(rest);
         }
         if (least < 0 || least > MOST_SIZE || most < least || most > MOST_SIZE) {
             throw new IllegalArgumentException("the numbers of children are wrong");
         }
-        Schema changed = schemas[schema];
         int before = changed.item;
         changed.least = least;
         changed.most = most;
@@ -359,27 +337,23 @@ public final class MarlStore {
 
     public int setKey(int schema, int key, int own, boolean isNeeded)
             throws IndexOutOfBoundsException, IllegalArgumentException, IllegalStateException {
-        needSchema(schema);
-        needSchema(own);
+        Schema changed = schemaOf(schema);
+        schemaOf(own);
         if (key < 0 || key > MOST_KEY) {
             throw new IllegalArgumentException("there is no such key");
         }
-        if (!schemas[schema].putKey(key, own, isNeeded)) {
+        if (!changed.putKey(key, own, isNeeded)) {
             throw new IllegalStateException("4 other keys have an own schema");
         }
-        return schemas[schema].keyCount;
+        return changed.keyCount;
     }
 
     public int check(int document, int schema) throws IndexOutOfBoundsException {
-        needDocument(document);
-        needSchema(schema);
         return countFailures(document, schema, -1);
     }
 
     public int pointFailure(int document, int schema, int failure)
             throws IndexOutOfBoundsException {
-        needDocument(document);
-        needSchema(schema);
         int count = countFailures(document, schema, failure);
         if (failure < 0 || failure >= count) {
             throw new IndexOutOfBoundsException("there is no such failure");
@@ -389,7 +363,6 @@ public final class MarlStore {
     }
 
     public int fitting(int schema) throws IndexOutOfBoundsException {
-        needSchema(schema);
         int fitted = 0;
         for (int i = 0; i < DOCUMENTS; i++) {
             if (countFailures(i, schema, -1) == 0) {
@@ -411,11 +384,10 @@ public final class MarlStore {
 
     public int addPart(int query, int part, int n)
             throws IndexOutOfBoundsException, IllegalArgumentException, IllegalStateException {
-        needQuery(query);
+        Query changed = queryOf(query);
         if (!isPart(part, n)) {
             throw new IllegalArgumentException("there is no such part");
         }
-        Query changed = queries[query];
         if (!changed.append(part, n)) {
             throw new IllegalStateException("the query is full");
         }
@@ -423,14 +395,10 @@ public final class MarlStore {
     }
 
     public int found(int query, int document) throws IndexOutOfBoundsException {
-        needQuery(query);
-        needDocument(document);
         return Long.bitCount(findIn(query, document));
     }
 
     public int pointFound(int query, int document, int number) throws IndexOutOfBoundsException {
-        needQuery(query);
-        needDocument(document);
         int place = placeInSet(findIn(query, document), number);
         Value value = walk.valueAt(place);
         if (value == null) {
@@ -442,7 +410,7 @@ public final class MarlStore {
 
     public int having(int query, int low, int high)
             throws IndexOutOfBoundsException, IllegalArgumentException {
-        needQuery(query);
+        queryOf(query);
         if (high < low) {
             throw new IllegalArgumentException("high is less than low");
         }
@@ -456,8 +424,6 @@ public final class MarlStore {
     }
 
     public double mean(int query, int document) throws IndexOutOfBoundsException {
-        needQuery(query);
-        needDocument(document);
         long numbers = walk.numbersAmong(findIn(query, document));
         int count = Long.bitCount(numbers);
         if (count == 0) {
@@ -467,10 +433,8 @@ public final class MarlStore {
     }
 
     public int dropFound(int query, int document) throws IndexOutOfBoundsException {
-        needQuery(query);
-        needDocument(document);
         changeTo(document, walk.without(findIn(query, document)));
-        return wholes[document].size;
+        return wholeOf(document).size;
     }
 
     public long digest() {
@@ -481,7 +445,7 @@ public final class MarlStore {
             d = d * 31 + stepAt(i);
         }
         for (int i = 0; i < DOCUMENTS; i++) {
-            d = digestValue(d, wholes[i]);
+            d = digestValue(d, wholeOf(i));
         }
         d = digestValue(d, clipped);
         for (int i = 0; i + 1 < DOCUMENTS; i++) {
@@ -501,45 +465,54 @@ public final class MarlStore {
 
     // ---- what the calls share
 
-    private static void needDocument(int document) {
-        if (document < 0 || document >= DOCUMENTS) {
+    private Value wholeOf(int document) {
+        if (document < 0 || document >= wholes.length) {
             throw new IndexOutOfBoundsException("there is no such document");
         }
+        return wholes[document];
     }
 
-    private void needPatch(int patch) {
-        if (patch < 0 || patch >= patchCount) {
+    private Patch patchOf(int patch) {
+        if (patch < 0 || patch >= patchCount || patch >= allPatches.length) {
             throw new IndexOutOfBoundsException("there is no such patch");
         }
+        return allPatches[patch];
     }
 
-    private void needRoomForPatch() {
+    private Schema schemaOf(int schema) {
+        if (schema < 0 || schema >= schemaCount || schema >= schemas.length) {
+            throw new IndexOutOfBoundsException("there is no such schema");
+        }
+        return schemas[schema];
+    }
+
+    private Query queryOf(int query) {
+        if (query < 0 || query >= queryCount || query >= queries.length) {
+            throw new IndexOutOfBoundsException("there is no such query");
+        }
+        return queries[query];
+    }
+
+    private int beginPatch() {
         if (patchCount >= MOST_PATCHES) {
             throw new IllegalStateException("there is no room for a patch");
         }
-    }
-
-    private void needSchema(int schema) {
-        if (schema < 0 || schema >= schemaCount) {
-            throw new IndexOutOfBoundsException("there is no such schema");
-        }
-    }
-
-    private void needQuery(int query) {
-        if (query < 0 || query >= queryCount) {
-            throw new IndexOutOfBoundsException("there is no such query");
-        }
+        patchCount++;
+        patchOf(patchCount - 1).clear();
+        return patchCount - 1;
     }
 
     private Value pointed() {
-        Value whole = wholes[pointer.at];
+        Value whole = wholeOf(pointer.at);
         Value there = whole.below(pointer.path, pointer.length);
         return there == null ? whole : there;
     }
 
     /** Every change of a DOCUMENT comes through here, so that the PATH of the POINTER stays RIGHT. */
     private void changeTo(int document, Value whole) {
-        wholes[document] = whole;
+        if (document >= 0 && document < wholes.length) {
+            wholes[document] = whole;
+        }
         if (pointer.at == document) {
             pointer.settle(whole);
         }
@@ -555,8 +528,8 @@ public final class MarlStore {
     }
 
     /** Does a PATCH in the editor alone; answers as failsAt does. */
-    private int tryOut(Patch patch, int document) {
-        editor.begin(wholes[document]);
+    private int tryOut(Patch patch, Value whole) {
+        editor.begin(whole);
         for (int i = 0; i < patch.count && i < takenOut.length; i++) {
             Operation operation = patch.operationAt(i);
             if (operation == null || !editor.perform(operation)) {
@@ -580,7 +553,8 @@ public final class MarlStore {
 
     /** Fills the walk with the DOCUMENT too. */
     private int countFailures(int document, int schema, int wanted) {
-        walk.fill(wholes[document]);
+        walk.fill(wholeOf(document));
+        schemaOf(schema);
         return checker.countFailures(schema, wanted);
     }
 
@@ -600,8 +574,9 @@ public final class MarlStore {
 
     /** What a QUERY finds, as a set of places of the walk, which is filled with the DOCUMENT. */
     private long findIn(int query, int document) {
-        walk.fill(wholes[document]);
-        return queries[query].findIn(walk);
+        Query asked = queryOf(query);
+        walk.fill(wholeOf(document));
+        return asked.findIn(walk);
     }
 
     private static boolean isIn(long places, int place) {
@@ -708,8 +683,8 @@ public final class MarlStore {
             if (kind != OBJECT) {
                 return step >= 0 && step < width() ? step : -1;
             }
-            for (int i = 0; i < width(); i++) {
-                if (stepOf(i) == step) {
+            for (int i = 0; keys != null && i < keys.length; i++) {
+                if (keys[i] == step) {
                     return i;
                 }
             }
@@ -725,10 +700,8 @@ public final class MarlStore {
                 return -1;
             }
             int place = 0;
-            for (int i = 0; i < width(); i++) {
-                if (stepOf(i) < step) {
-                    place++;
-                }
+            while (keys != null && place < keys.length && keys[place] < step) {
+                place++;
             }
             return place;
         }
@@ -782,7 +755,12 @@ public final class MarlStore {
             return new Value(kind, number, freshKeys, fresh);
         }
 
-        static boolean isSame(Value a, Value b, int level) {
+        boolean isSameAs(Value other) {
+            return areSame(this, other, 0);
+        }
+
+        /** Level tells how far it is beneath the first two. */
+        private static boolean areSame(Value a, Value b, int level) {
             if (a == b) {
                 return true;
             }
@@ -792,7 +770,7 @@ public final class MarlStore {
             }
             for (int i = 0; i < a.width(); i++) {
                 if (a.stepOf(i) != b.stepOf(i)
-                        || !isSame(a.partAt(i), b.partAt(i), level + 1)) {
+                        || !areSame(a.partAt(i), b.partAt(i), level + 1)) {
                     return false;
                 }
             }
@@ -805,6 +783,10 @@ public final class MarlStore {
         int at;
         int length;
         final int[] path = new int[MOST_STEPS];
+
+        int[] pathNow() {
+            return Arrays.copyOf(path, Math.max(0, Math.min(length, path.length)));
+        }
 
         void goToWhole(int document) {
             at = document;
@@ -1000,7 +982,7 @@ public final class MarlStore {
         private boolean testAt(int[] path, int steps, Value value) {
             Value there = follow(path, steps);
             taken = null;
-            return there != null && Value.isSame(there, value, 0);
+            return there != null && there.isSameAs(value);
         }
 
         /** What a PATH leads to, null if it is not RIGHT; notes the way for rebuild. */
@@ -1039,12 +1021,14 @@ public final class MarlStore {
         private final Operation[] written = new Operation[MOST_OPERATIONS];
         private int count;
 
+        /** The DIFFERENCE of two VALUES. */
+        int compare(Value a, Value b) {
+            return between(a, b, 0, 0);
+        }
+
         /** Level tells how far it is beneath the first two, base where the table is free. */
-        int between(Value a, Value b, int level, int base) {
-            if (a == b) {
-                return 0;
-            }
-            if (a == null || b == null) {
+        private int between(Value a, Value b, int level, int base) {
+            if (a == b || a == null || b == null) {
                 return 0;
             }
             if (level <= MOST_LEVELS && a.kind == LIST && b.kind == LIST) {
@@ -1090,28 +1074,50 @@ public final class MarlStore {
         private boolean fillTable(Value a, Value b, int level, int base) {
             int rows = a.width() + 1;
             int columns = b.width() + 1;
-            int free = base + rows * columns;
-            if (base < 0 || rows > MOST_SIZE || columns > MOST_SIZE || free > table.length) {
+            if (base < 0 || rows > MOST_SIZE || columns > MOST_SIZE
+                    || base + rows * columns > table.length) {
                 return false;
             }
             for (int i = rows - 1; i >= 0; i--) {
                 for (int j = columns - 1; j >= 0; j--) {
-                    int cell = base + i * columns + j;
-                    int least = i + 1 < rows || j + 1 < columns ? Integer.MAX_VALUE : 0;
-                    if (i + 1 < rows) {
-                        least = Math.min(least, sizeAt(a, i) + table[cell + columns]);
-                    }
-                    if (j + 1 < columns) {
-                        least = Math.min(least, sizeAt(b, j) + table[cell + 1]);
-                    }
-                    if (i + 1 < rows && j + 1 < columns) {
-                        least = Math.min(least, table[cell + columns + 1]
-                                + between(a.partAt(i), b.partAt(j), level + 1, free));
-                    }
-                    table[cell] = least;
+                    table[base + i * columns + j] = leastFrom(a, i, b, j, level, base);
                 }
             }
             return true;
+        }
+
+        /** The DIFFERENCE of what is left, when all cells behind this one are filled. */
+        private int leastFrom(Value a, int i, Value b, int j, int level, int base) {
+            if (i >= a.width() && j >= b.width()) {
+                return 0;
+            }
+            if (i >= a.width()) {
+                return sizeAt(b, j) + cell(a, i, b, j + 1, base);
+            }
+            if (j >= b.width()) {
+                return sizeAt(a, i) + cell(a, i + 1, b, j, base);
+            }
+            int least = Math.min(sizeAt(b, j) + cell(a, i, b, j + 1, base),
+                    sizeAt(a, i) + cell(a, i + 1, b, j, base));
+            return Math.min(least, pairedFrom(a, i, b, j, level, base));
+        }
+
+        /** The DIFFERENCE of what is left, if the next two CHILDREN are a pair. */
+        private int pairedFrom(Value a, int i, Value b, int j, int level, int base) {
+            return between(a.partAt(i), b.partAt(j), level + 1, freeBehind(a, b, base))
+                    + cell(a, i + 1, b, j + 1, base);
+        }
+
+        private static int freeBehind(Value a, Value b, int base) {
+            return base + (a.width() + 1) * (b.width() + 1);
+        }
+
+        private int cell(Value a, int i, Value b, int j, int base) {
+            int cell = base + i * (b.width() + 1) + j;
+            if (i > a.width() || j > b.width() || cell < 0 || cell >= table.length) {
+                return 0;
+            }
+            return table[cell];
         }
 
         /** Writes the PATCH from a to b, as much of it as a PATCH holds; answers how long it is. */
@@ -1130,7 +1136,7 @@ public final class MarlStore {
         }
 
         private void writeAt(Value a, Value b, int level, int base) {
-            if (a == null || b == null || Value.isSame(a, b, 0)) {
+            if (a == null || b == null || a.isSameAs(b)) {
                 return;
             }
             boolean isDeeper = level < path.length;
@@ -1172,18 +1178,16 @@ public final class MarlStore {
         private void writeLists(Value a, Value b, int level, int base) {
             int i = 0;
             int j = 0;
-            int free = base + (a.width() + 1) * (b.width() + 1);
             for (int turn = a.width() + b.width(); turn > 0; turn--) {
-                int left = cell(a, b, i, j, base);
+                int left = cell(a, i, b, j, base);
                 boolean hasA = i < a.width();
                 boolean hasB = j < b.width();
-                if (hasA && hasB && left == cell(a, b, i + 1, j + 1, base)
-                        + between(a.partAt(i), b.partAt(j), level + 1, free)) {
-                    writeBelow(a.partAt(i), b.partAt(j), j, level, free);
+                if (hasA && hasB && left == pairedFrom(a, i, b, j, level, base)) {
+                    writeBelow(a.partAt(i), b.partAt(j), j, level, freeBehind(a, b, base));
                     i++;
                     j++;
                     turn--;
-                } else if (hasA && left == sizeAt(a, i) + cell(a, b, i + 1, j, base)) {
+                } else if (hasA && left == sizeAt(a, i) + cell(a, i + 1, b, j, base)) {
                     note(DROP, level, j, null);
                     i++;
                 } else {
@@ -1191,14 +1195,6 @@ public final class MarlStore {
                     j++;
                 }
             }
-        }
-
-        private int cell(Value a, Value b, int i, int j, int base) {
-            if (i > a.width() || j > b.width()) {
-                return 0;
-            }
-            int cell = base + i * (b.width() + 1) + j;
-            return cell < 0 || cell >= table.length ? 0 : table[cell];
         }
 
         private void note(int code, int length, int step, Value value) {
