@@ -540,9 +540,8 @@ public final class MarlStore {
         return editor.isAllowed() ? CAN_BE_APPLIED : patch.count;
     }
 
-    /** Writes the INVERSE of a PATCH that has just been tried out. */
+    /** Writes the INVERSE of a PATCH that has just been tried out into an empty one. */
     private void writeInverse(Patch patch, Patch inverse) {
-        inverse.clear();
         for (int i = patch.count - 1; i >= 0; i--) {
             Operation operation = patch.operationAt(i);
             if (operation != null && i < takenOut.length) {
@@ -681,7 +680,7 @@ public final class MarlStore {
         /** The place of the CHILD with a STEP, -1 if there is none. */
         int placeOf(int step) {
             if (kind != OBJECT) {
-                return step >= 0 && step < width() ? step : -1;
+                return parts != null && step >= 0 && step < parts.length ? step : -1;
             }
             for (int i = 0; keys != null && i < keys.length; i++) {
                 if (keys[i] == step) {
@@ -1416,7 +1415,7 @@ public final class MarlStore {
         private int count;
         private final Walk walk;
         private final Schema[] schemas;
-        /** By which SCHEMA each place is CHECKED; ANYTHING where nothing more is noted. */
+        /** By which SCHEMA each place is CHECKED; ANYTHING or FORBIDDEN if by none. */
         private final int[] by = new int[MOST_SIZE];
 
         Checker(Walk walk, Schema[] schemas) {
@@ -1433,7 +1432,6 @@ public final class MarlStore {
                 by[place] = place == 0 ? schema : schemaBelow(walk.above(place), place);
                 if (by[place] == FORBIDDEN) {
                     note(place, 5);
-                    by[place] = ANYTHING;
                 } else if (by[place] >= 0 && by[place] < schemas.length && value != null
                         && !isOfKind(place, value, schemas[by[place]])) {
                     by[place] = ANYTHING;

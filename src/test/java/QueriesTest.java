@@ -131,6 +131,8 @@ public final class QueriesTest {
     private static void partsBehindParts() {
         String document = "{1:[5,{3:[],7:-2}],2:[n,[t,4]],9:{3:8}}";
         finds(document, "1 1.1.3 2 2.1", DEEP, 0, WITH, 1, DEEP, 0, KIND, 3);
+        finds(document, "2 2.0 2.1 2.1.0 2.1.1", STEP, 2, DEEP, 0);
+        finds(document, "1.1 1.1.3 1.1.7", STEP, 1, LAST, 0, DEEP, 0);
         finds(document, "1.0 1.1 2.0 2.1 9.3", ANY, 0, ANY, 0);
         finds(document, "1.1 2.1 9.3", ANY, 0, LAST, 0);
         finds(document, "1.1.3 9.3", DEEP, 0, STEP, 3);

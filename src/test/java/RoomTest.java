@@ -15,7 +15,7 @@ public final class RoomTest {
     public static void main(String[] args) {
         String nothings = "[" + "n,".repeat(48) + "n]";
         String others = "[" + "t,".repeat(48) + "t]";
-        String keys = "{" + "0:[]".repeat(1);
+        String keys = "{0:[]";
         for (int i = 1; i < 48; i++) {
             keys = keys + "," + i + ":t";
         }

@@ -12,6 +12,7 @@ public final class SchemasTest {
         rangeIsChecked();
         countIsChecked();
         neededKeysAreChecked();
+        ownSchemasAreChecked();
         itemsAreChecked();
         restIsChecked();
         schemasInThemselves();
@@ -171,6 +172,24 @@ public final class SchemasTest {
         x.setChildren(1, 0, 50, 0, -1);
         Build.document(x, 2, "[n,{2:n},[],{9:n}]");
         failures(x, 2, 1, "4@1", "4@3");
+    }
+
+    private static void ownSchemasAreChecked() {
+        MarlStore x = with("{2:n,5:n,8:n,9:n}", 5);
+        int[] keys = {8, 5, 9, 2};
+        for (int i = 1; i <= 4; i++) {
+            x.setKinds(i, 2, -9999, 9999);
+            x.setKey(0, keys[i - 1], i, i > 2);
+        }
+        failures(x, 2, 0, "1@2", "1@5", "1@8", "1@9");
+        x.setKinds(2, 1, -9999, 9999);
+        failures(x, 2, 0, "1@2", "1@8", "1@9");
+        x.setKinds(4, 1, -9999, 9999);
+        failures(x, 2, 0, "1@8", "1@9");
+        x.setKinds(1, 1, -9999, 9999);
+        failures(x, 2, 0, "1@9");
+        Build.document(x, 2, "{8:t,5:t}");
+        failures(x, 2, 0, "4@", "4@", "1@5", "1@8");
     }
 
     private static void itemsAreChecked() {

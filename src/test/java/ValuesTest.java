@@ -43,6 +43,8 @@ public final class ValuesTest {
         DUE.call(x, "1", "set", 0, 77777);
         DUE.call(x, "-10000", "number");
         Build.document(x, 0, "[n,[t,f,{5:n}],3]");
+        Build.document(x, 1, "[t,[f]]");
+        x.point(0);
         x.into(1);
         DUE.call(x, "5", "set", 4, 0);
         DUE.is("steps()", x.steps(), 1);
