@@ -1,3 +1,5 @@
+import java.util.Collections;
+
 /**
  * Sets DOCUMENTS from texts: "n" NOTHING, "t" and "f" the TRUTHS, a number, "[..]" a LIST and
  * "{3:..}" an OBJECT, with commas between; and reads them back as such.
@@ -35,6 +37,54 @@ final class Build {
         return out.toString();
     }
 
+    /** The POINTER goes along a PATH, from the whole VALUE of the DOCUMENT on. */
+    static void at(MarlStore x, int document, int... path) {
+        x.point(document);
+        for (int step : path) {
+            x.into(step);
+        }
+    }
+
+    /** Adds an OPERATION with such a VALUE and PATH; DOCUMENTS 4 and 5 are used for it. */
+    static void operation(MarlStore x, int patch, int code, int step, String value, int... path) {
+        StringBuilder way = new StringBuilder();
+        for (int one : path) {
+            way.append('{').append(one).append(':');
+        }
+        document(x, 4, way + "n" + "}".repeat(path.length));
+        clip(x, 5, value);
+        at(x, 4, path);
+        x.addOperation(patch, code, step);
+    }
+
+    /** The PATH of the POINTER as "STEP.STEP". */
+    static String path(MarlStore x) {
+        StringBuilder all = new StringBuilder();
+        for (int i = 0; i < x.steps(); i++) {
+            all.append(i > 0 ? "." : "").append(x.stepAt(i));
+        }
+        return all.toString();
+    }
+
+    /** A LIST with so many CHILDREN of this text. */
+    static String list(int count, String child) {
+        return "[" + String.join(",", Collections.nCopies(count, child)) + "]";
+    }
+
+    /** An OBJECT with this text for each of so many KEYS. */
+    static String object(int from, int count, String child) {
+        StringBuilder all = new StringBuilder("{");
+        for (int i = 0; i < count; i++) {
+            all.append(i > 0 ? "," : "").append(from + i).append(':').append(child);
+        }
+        return all.append('}').toString();
+    }
+
+    /** LISTS in one another, with one CHILD each but the innermost, which has none. */
+    static String nested(int depth) {
+        return "[".repeat(depth) + "]".repeat(depth);
+    }
+
     private void value() {
         char sign = text.charAt(next);
         if (sign == '[' || sign == '{') {
@@ -59,14 +109,23 @@ final class Build {
                 next++;
             }
             x.insert(step);
-            x.into(step);
-            value();
-            x.up();
+            child(step);
             if (text.charAt(next) == ',') {
                 next++;
             }
         }
         next++;
+    }
+
+    /** NOTHING is there already: it was in the CLIP. */
+    private void child(int step) {
+        if (text.charAt(next) == 'n') {
+            next++;
+            return;
+        }
+        x.into(step);
+        value();
+        x.up();
     }
 
     private int number() {

@@ -3,6 +3,9 @@ import java.util.Arrays;
 /** Notes every answer that is not the one that is due. */
 final class Due {
     private final String name;
+    private String quoted = "";
+    private int sentences;
+    private int askedBefore;
     private int asked;
     private int wrong;
 
@@ -10,24 +13,53 @@ final class Due {
         this.name = name;
     }
 
+    /** What is asked from here on tests these words of a promise, or of a term ("T1" to "T5"). */
+    void sentence(String where, String words) {
+        closeSentence();
+        sentences++;
+        askedBefore = asked;
+        quoted = " [" + where + ": " + words + "]";
+    }
+
+    private void closeSentence() {
+        if (sentences > 0 && asked == askedBefore) {
+            tell("nothing was asked");
+        }
+    }
+
+    private void tell(String fault) {
+        wrong++;
+        System.out.println(name + quoted + ": " + fault);
+    }
+
     void is(String what, long got, long due) {
         asked++;
         if (got != due) {
-            wrong++;
-            System.out.println(name + ": " + what + " answered " + got + ", due is " + due);
+            tell(what + " answered " + got + ", due is " + due);
         }
     }
 
     void is(String what, double got, double due) {
         asked++;
         if (Double.compare(got, due) != 0) {
-            wrong++;
-            System.out.println(name + ": " + what + " answered " + got + ", due is " + due);
+            tell(what + " answered " + got + ", due is " + due);
+        }
+    }
+
+    void is(String what, String got, String due) {
+        asked++;
+        if (!got.equals(due)) {
+            tell(what + " is " + got + ", due is " + due);
         }
     }
 
     void holds(String what, boolean isSo) {
         is(what, isSo ? 1 : 0, 1);
+    }
+
+    /** What a DOCUMENT must be, told as Build tells it; the POINTER is at the whole of it then. */
+    void reads(MarlStore x, int document, String due) {
+        is("document " + document, Build.read(x, document), due);
     }
 
     /** Makes a call that must answer so: a number, or throws.Name, which may change nothing. */
@@ -37,14 +69,16 @@ final class Due {
         String got = Calls.of(x, call, arguments);
         asked++;
         if (!got.equals(due)) {
-            wrong++;
-            System.out.println(name + ": " + call + Arrays.toString(arguments) + " answered " + got
-                    + ", due is " + due);
+            tell(call + Arrays.toString(arguments) + " answered " + got + ", due is " + due);
         }
         if (isThrown) {
             holds(call + Arrays.toString(arguments) + " throws and changes nothing",
                     x.digest() == before);
         }
+    }
+
+    void call(MarlStore x, long due, String call, int... arguments) {
+        call(x, Long.toString(due), call, arguments);
     }
 
     void bounds(MarlStore x, String call, int... arguments) {
@@ -60,7 +94,9 @@ final class Due {
     }
 
     void end() {
-        System.out.println(name + ": " + asked + " answers, " + wrong + " not as due");
+        closeSentence();
+        System.out.println(name + ": " + (sentences > 0 ? sentences + " sentences, " : "") + asked
+                + " answers, " + wrong + " not as due");
         if (wrong > 0 || asked == 0) {
             System.exit(1);
         }

@@ -29,31 +29,11 @@ public final class PatchesTest {
         DUE.end();
     }
 
-    /** Adds an OPERATION with such a VALUE and PATH; DOCUMENTS 4 and 5 are used for it. */
-    private static void add(MarlStore x, int patch, int code, int step, String value, int... path) {
-        String text = "n";
-        for (int i = path.length - 1; i >= 0; i--) {
-            text = "{" + path[i] + ":" + text + "}";
-        }
-        Build.document(x, 4, text);
-        Build.clip(x, 5, value);
-        x.point(4);
-        for (int one : path) {
-            x.into(one);
-        }
-        x.addOperation(patch, code, step);
-    }
-
-    private static void reads(MarlStore x, int document, String due) {
-        String got = Build.read(x, document);
-        DUE.holds("document " + document + " is " + got + ", due is " + due, got.equals(due));
-    }
-
     /** A new object with one PATCH of one OPERATION, and DOCUMENT 0. */
     private static MarlStore with(String document, int code, int step, String value, int... path) {
         MarlStore x = new MarlStore();
         x.addPatch();
-        add(x, 0, code, step, value, path);
+        Build.operation(x, 0, code, step, value, path);
         Build.document(x, 0, document);
         return x;
     }
@@ -63,9 +43,9 @@ public final class PatchesTest {
         MarlStore x = with(document, code, step, value, path);
         DUE.call(x, "-1", "failsAt", 0, 0);
         DUE.call(x, "1", "apply", 0, 0);
-        reads(x, 0, due);
+        DUE.reads(x, 0, due);
         DUE.call(x, "2", "apply", 1, 0);
-        reads(x, 0, document);
+        DUE.reads(x, 0, document);
         DUE.call(x, "3", "patches");
     }
 
@@ -73,7 +53,7 @@ public final class PatchesTest {
         MarlStore x = with(document, code, step, value, path);
         DUE.call(x, "0", "failsAt", 0, 0);
         DUE.call(x, "-1", "apply", 0, 0);
-        reads(x, 0, document);
+        DUE.reads(x, 0, document);
         DUE.call(x, "1", "patches");
     }
 
@@ -132,7 +112,7 @@ public final class PatchesTest {
         Build.clip(x, 5, "[9]");
         Build.document(x, 0, "[1,[2]]");
         DUE.call(x, "1", "apply", 0, 0);
-        reads(x, 0, "[1,[2,{7:t}]]");
+        DUE.reads(x, 0, "[1,[2,{7:t}]]");
     }
 
     private static void applyAdd() {
@@ -193,13 +173,13 @@ public final class PatchesTest {
     private static void inverse() {
         MarlStore x = new MarlStore();
         x.addPatch();
-        add(x, 0, ADD, 1, "[3,4]", 5);
-        add(x, 0, DROP, 0, "n", 5);
-        add(x, 0, SET, 0, "t", 6);
-        add(x, 0, TEST, 0, "t", 6);
+        Build.operation(x, 0, ADD, 1, "[3,4]", 5);
+        Build.operation(x, 0, DROP, 0, "n", 5);
+        Build.operation(x, 0, SET, 0, "t", 6);
+        Build.operation(x, 0, TEST, 0, "t", 6);
         Build.document(x, 0, "{5:[[1,2,3]],6:{1:2}}");
         DUE.call(x, "1", "apply", 0, 0);
-        reads(x, 0, "{5:[[3,4]],6:t}");
+        DUE.reads(x, 0, "{5:[[3,4]],6:t}");
         int[][] due = {{TEST, 1, 0, 1}, {SET, 1, 0, 2}, {ADD, 1, 0, 4}, {DROP, 1, 1, 0}};
         DUE.call(x, "4", "operations", 1);
         for (int i = 0; i < 4; i++) {
@@ -208,43 +188,43 @@ public final class PatchesTest {
             }
         }
         DUE.call(x, "2", "apply", 1, 0);
-        reads(x, 0, "{5:[[1,2,3]],6:{1:2}}");
+        DUE.reads(x, 0, "{5:[[1,2,3]],6:{1:2}}");
     }
 
     private static void inverseOfInverse() {
         MarlStore x = new MarlStore();
         x.addPatch();
-        add(x, 0, ADD, 0, "[1]");
-        add(x, 0, ADD, 0, "{2:3}", 0);
-        add(x, 0, DROP, 1, "n");
+        Build.operation(x, 0, ADD, 0, "[1]");
+        Build.operation(x, 0, ADD, 0, "{2:3}", 0);
+        Build.operation(x, 0, DROP, 1, "n");
         Build.document(x, 0, "[[t,f],n]");
         DUE.call(x, "1", "apply", 0, 0);
-        reads(x, 0, "[[{2:3},1],n]");
+        DUE.reads(x, 0, "[[{2:3},1],n]");
         DUE.call(x, "2", "apply", 1, 0);
-        reads(x, 0, "[[t,f],n]");
+        DUE.reads(x, 0, "[[t,f],n]");
         DUE.call(x, "3", "apply", 2, 0);
-        reads(x, 0, "[[{2:3},1],n]");
+        DUE.reads(x, 0, "[[{2:3},1],n]");
         DUE.call(x, "4", "apply", 3, 0);
-        reads(x, 0, "[[t,f],n]");
+        DUE.reads(x, 0, "[[t,f],n]");
     }
 
     private static void allOrNothing() {
         MarlStore x = new MarlStore();
         x.addPatch();
-        add(x, 0, ADD, 0, "5");
-        add(x, 0, SET, 0, "n", 1);
-        add(x, 0, DROP, 3, "n");
+        Build.operation(x, 0, ADD, 0, "5");
+        Build.operation(x, 0, SET, 0, "n", 1);
+        Build.operation(x, 0, DROP, 3, "n");
         Build.document(x, 0, "[1,2]");
         DUE.call(x, "2", "failsAt", 0, 0);
         DUE.call(x, "-1", "apply", 0, 0);
-        reads(x, 0, "[1,2]");
+        DUE.reads(x, 0, "[1,2]");
         DUE.is("patches()", x.patches(), 1);
         Build.document(x, 0, "[]");
         DUE.call(x, "1", "failsAt", 0, 0);
         Build.document(x, 0, "[1,2,3]");
         DUE.call(x, "-1", "failsAt", 0, 0);
         DUE.call(x, "1", "apply", 0, 0);
-        reads(x, 0, "[5,n,2]");
+        DUE.reads(x, 0, "[5,n,2]");
     }
 
     private static String nothings(int count) {
@@ -254,8 +234,8 @@ public final class PatchesTest {
     private static void largerInBetween() {
         MarlStore x = new MarlStore();
         x.addPatch();
-        add(x, 0, ADD, 0, nothings(30));
-        add(x, 0, ADD, 0, "n");
+        Build.operation(x, 0, ADD, 0, nothings(30));
+        Build.operation(x, 0, ADD, 0, "n");
         x.addOperation(0, ADD, 0);
         Build.document(x, 0, nothings(10));
         DUE.call(x, "-1", "failsAt", 0, 0);
@@ -280,7 +260,7 @@ public final class PatchesTest {
     private static void deeperInBetween() {
         MarlStore x = new MarlStore();
         x.addPatch();
-        add(x, 0, ADD, 0, "[[[[[[n]]]]]]", 0, 0, 0, 0, 0, 0);
+        Build.operation(x, 0, ADD, 0, "[[[[[[n]]]]]]", 0, 0, 0, 0, 0, 0);
         Build.document(x, 0, "[[[[[[[]]]]]]]");
         DUE.call(x, "1", "failsAt", 0, 0);
         DUE.call(x, "-1", "apply", 0, 0);
@@ -288,16 +268,16 @@ public final class PatchesTest {
         x.point(4);
         x.addOperation(0, DROP, 0);
         DUE.call(x, "1", "apply", 0, 0);
-        reads(x, 0, "[]");
+        DUE.reads(x, 0, "[]");
         DUE.call(x, "13", "ofOperation", 1, 0, 3);
         DUE.call(x, "2", "apply", 1, 0);
-        reads(x, 0, "[[[[[[[]]]]]]]");
+        DUE.reads(x, 0, "[[[[[[[]]]]]]]");
         Build.clip(x, 5, "[]");
         x.point(4);
         x.set(2, 3);
         x.copy();
         x.addPatch();
-        add(x, 3, SET, 0, "[[[[[[n]]]]]]", 0);
+        Build.operation(x, 3, SET, 0, "[[[[[[n]]]]]]", 0);
         Build.document(x, 0, "[n]");
         DUE.call(x, "1", "failsAt", 3, 0);
     }
@@ -305,7 +285,7 @@ public final class PatchesTest {
     private static void pointerBehindApply() {
         MarlStore x = new MarlStore();
         x.addPatch();
-        add(x, 0, DROP, 1, "n");
+        Build.operation(x, 0, DROP, 1, "n");
         Build.document(x, 0, "[n,[[t]]]");
         Build.document(x, 1, "[n,[[t]],[[]]]");
         Build.document(x, 2, "[n,[[t]],t]");
@@ -342,12 +322,12 @@ public final class PatchesTest {
             DUE.call(x, "" + i, "addPatch");
         }
         DUE.call(x, "-2", "apply", 0, 0);
-        reads(x, 0, "[5]");
+        DUE.reads(x, 0, "[5]");
         DUE.call(x, "8", "patches");
         DUE.call(x, "-2", "apply", 7, 0);
         x.forget();
         DUE.call(x, "7", "apply", 0, 0);
-        reads(x, 0, "[5,5]");
+        DUE.reads(x, 0, "[5,5]");
         DUE.call(x, "1", "operations", 7);
         Build.document(x, 0, "n");
         DUE.call(x, "-1", "apply", 0, 0);
@@ -359,9 +339,9 @@ public final class PatchesTest {
         DUE.call(x, "-1", "failsAt", 0, 3);
         DUE.call(x, "1", "apply", 0, 3);
         DUE.call(x, "0", "operations", 1);
-        add(x, 0, TEST, 0, "n");
-        add(x, 0, SET, 0, "[]");
-        add(x, 0, TEST, 0, "t");
+        Build.operation(x, 0, TEST, 0, "n");
+        Build.operation(x, 0, SET, 0, "[]");
+        Build.operation(x, 0, TEST, 0, "t");
         DUE.call(x, "2", "failsAt", 0, 3);
         DUE.call(x, "-1", "apply", 0, 3);
         DUE.call(x, "0", "kind");
@@ -397,9 +377,9 @@ public final class PatchesTest {
             DUE.call(x, "0", "diff", 2, 3);
             DUE.is("operations(0)", x.operations(0), x.changes(2, 3));
             DUE.call(x, "1", "apply", 0, 2);
-            reads(x, 2, pair[1]);
+            DUE.reads(x, 2, pair[1]);
             DUE.call(x, "2", "apply", 1, 2);
-            reads(x, 2, pair[0]);
+            DUE.reads(x, 2, pair[0]);
         }
         MarlStore x = new MarlStore();
         DUE.bounds(x, "diff", 6, 0);
@@ -435,10 +415,10 @@ public final class PatchesTest {
         DUE.bounds(x, "ofOperation", 0, 0, 0);
         x.addPatch();
         DUE.bounds(x, "ofOperation", 0, 0, 9);
-        add(x, 0, ADD, 17, "[n,n]", 3, 4);
-        add(x, 0, DROP, 18, "[n,n,n]", 3);
-        add(x, 0, SET, 19, "{5:[t]}");
-        add(x, 0, TEST, 20, "{}", 1, 2, 3, 4, 5, 6);
+        Build.operation(x, 0, ADD, 17, "[n,n]", 3, 4);
+        Build.operation(x, 0, DROP, 18, "[n,n,n]", 3);
+        Build.operation(x, 0, SET, 19, "{5:[t]}");
+        Build.operation(x, 0, TEST, 20, "{}", 1, 2, 3, 4, 5, 6);
         int[][] due = {{ADD, 2, 17, 3}, {DROP, 1, 18, 0}, {SET, 0, 0, 3}, {TEST, 6, 0, 1}};
         for (int i = 0; i < 4; i++) {
             for (int what = 0; what < 4; what++) {
