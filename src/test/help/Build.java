@@ -31,9 +31,8 @@ final class Build {
 
     /** The whole VALUE of a DOCUMENT as such a text; the POINTER is at the whole VALUE then. */
     static String read(MarlStore x, int document) {
-        x.point(document);
         StringBuilder out = new StringBuilder();
-        write(x, out);
+        write(x, x.point(document), out);
         return out.toString();
     }
 
@@ -60,7 +59,8 @@ final class Build {
     /** The PATH of the POINTER as "STEP.STEP". */
     static String path(MarlStore x) {
         StringBuilder all = new StringBuilder();
-        for (int i = 0; i < x.steps(); i++) {
+        int steps = x.steps();
+        for (int i = 0; i < steps; i++) {
             all.append(i > 0 ? "." : "").append(x.stepAt(i));
         }
         return all.toString();
@@ -136,18 +136,17 @@ final class Build {
         return Integer.parseInt(text.substring(from, next));
     }
 
-    private static void write(MarlStore x, StringBuilder out) {
-        int kind = x.kind();
+    private static void write(MarlStore x, int kind, StringBuilder out) {
         if (kind < 3) {
             out.append(kind == 0 ? "n" : kind == 2 ? "" + x.number() : x.number() == 1 ? "t" : "f");
             return;
         }
         out.append(kind == 3 ? '[' : '{');
-        for (int i = 0; i < x.children(); i++) {
+        int count = x.children();
+        for (int i = 0; i < count; i++) {
             int step = x.childStep(i);
             out.append(i > 0 ? "," : "").append(kind == 4 ? step + ":" : "");
-            x.into(step);
-            write(x, out);
+            write(x, x.into(step), out);
             x.up();
         }
         out.append(kind == 3 ? ']' : '}');

@@ -221,7 +221,7 @@ public final class DifferenceEdgesTest {
     }
 
     private static void operationsOfObjects() {
-        DUE.sentence("T3", "by their KEYS (of both) in order: for one that only a has DROP, only b ADD");
+        DUE.sentence("T3", "in order: for one that only a has DROP, only b ADD");
         written("{}", "{0:n,99:[n]}", "0:0:0:1 0:0:99:2");
         written("{0:n,99:[n]}", "{}", "1:0:0:0 1:0:99:0");
         written("{1:n,3:n}", "{0:n,2:n,4:n}", "0:0:0:1 1:0:1:0 0:0:2:1 1:0:3:0 0:0:4:1");
@@ -241,7 +241,7 @@ public final class DifferenceEdgesTest {
     }
 
     private static void aPairComesFirst() {
-        DUE.sentence("T3", "then what comes of these two at the PATH with the STEP j, and i and j are 1 more");
+        DUE.sentence("T3", "then what comes of these two at the PATH with the STEP j");
         written("[1]", "[2]", "2:1:0:1");
         written("[n]", "[{}]", "2:1:0:1");
         written("[1,2]", "[3,4,5]", "2:1:0:1 2:1:0:1 0:0:2:1");
@@ -284,7 +284,7 @@ public final class DifferenceEdgesTest {
     }
 
     private static void operationsAtTheGreatestDepth() {
-        DUE.sentence("T3", "The PATCH from a to b has these OPERATIONS, beginning with an empty PATH");
+        DUE.sentence("T3", "has these OPERATIONS, beginning with an empty PATH");
         written("[[[[[[1]]]]]]", "[[[[[[2]]]]]]", "2:6:0:1");
         written("[[[[[[1]]]]]]", "[[[[[[]]]]]]", "1:5:0:0");
         written("[[[[[[]]]]]]", "[[[[[[{}]]]]]]", "0:5:0:1");

@@ -192,7 +192,7 @@ public final class PatchEdgesTest {
     }
 
     private static void asTheyAreNow() {
-        DUE.sentence("21", "with the PATH of the POINTER and the VALUE of the CLIP (as they are now)");
+        DUE.sentence("21", "and the VALUE of the CLIP (as they are now)");
         MarlStore x = with("[1,[2]]", ADD, 1, "{7:t}", 1);
         Build.document(x, 4, "[n]");
         Build.clip(x, 5, "[9]");
@@ -219,7 +219,7 @@ public final class PatchEdgesTest {
     }
 
     private static void addToObjects() {
-        DUE.sentence("T2", "in an OBJECT it is there for the KEY STEP, which must be a KEY (0 to 99)");
+        DUE.sentence("T2", "it is there for the KEY STEP, which must be a KEY (0 to 99)");
         done("{0:t}", "{}", ADD, 0, "t");
         done("{99:t}", "{}", ADD, 99, "t");
         done("{0:t,1:n,98:n}", "{1:n,98:n}", ADD, 0, "t");
@@ -287,8 +287,8 @@ public final class PatchEdgesTest {
 
     private static void testsTheSame() {
         DUE.sentence("T1", "Two VALUES are the SAME, if they are of one KIND");
-        String[] all = {"n", "f", "t", "0", "1", "-9999", "9999", "[]", "{}", "[n]", "{0:n}", "{1:n}",
-            "[n,n]", "{0:n,1:n}", "[f]", "[0]", "[[]]", "[{}]", "{0:{}}", "[1,t]", "[t,1]"};
+        String[] all = {"n", "f", "t", "0", "1", "-9999", "9999", "[]", "{}", "[n]", "{0:n}",
+            "{1:n}", "[n,n]", "{0:n,1:n}", "[f]", "[0]", "[[]]", "[{}]", "{0:{}}", "[1,t]", "[t,1]"};
         for (String one : all) {
             for (String other : all) {
                 if (one.equals(other)) {
@@ -437,7 +437,7 @@ public final class PatchEdgesTest {
     }
 
     private static void inverseIsTheLastOneFirst() {
-        DUE.sentence("T2", "The INVERSE of it (as it was applied there) has for each OPERATION, the last one first");
+        DUE.sentence("T2", "has for each OPERATION, the last one first");
         MarlStore x = with("[1,[2]]", ADD, 2, "[n,n]");
         Build.operation(x, 0, DROP, 0, "n", 1);
         Build.operation(x, 0, SET, 0, "{}", 0);
@@ -556,7 +556,8 @@ public final class PatchEdgesTest {
 
     private static void noSuchPatchOrDocument() {
         for (String name : new String[] {"apply", "failsAt"}) {
-            DUE.sentence(name.equals("apply") ? "22" : "23", "if there is no such PATCH, or DOCUMENT");
+            DUE.sentence(name.equals("apply") ? "22" : "23",
+                    "if there is no such PATCH, or DOCUMENT");
             MarlStore x = new MarlStore();
             DUE.bounds(x, name, 0, 0);
             x.addPatch();
@@ -572,7 +573,7 @@ public final class PatchEdgesTest {
     }
 
     private static void failsAt() {
-        DUE.sentence("23", "Returns the number of the first OPERATION that cannot be done, if it is APPLIED");
+        DUE.sentence("23", "the first OPERATION that cannot be done, if it is APPLIED");
         MarlStore x = with("t", TEST, 0, "f");
         Build.operation(x, 0, TEST, 0, "f");
         DUE.call(x, 0, "failsAt", 0, 0);
@@ -595,7 +596,7 @@ public final class PatchEdgesTest {
     }
 
     private static void failsAtTheEnd() {
-        DUE.sentence("23", "how many it has, if all can be done, but the DOCUMENT would not be allowed");
+        DUE.sentence("23", "if all can be done, but the DOCUMENT would not be allowed");
         MarlStore x = with(Build.list(49, "n"), ADD, 0, "n");
         DUE.call(x, 1, "failsAt", 0, 0);
         for (int i = 2; i <= 20; i++) {

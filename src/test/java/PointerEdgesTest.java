@@ -43,7 +43,7 @@ public final class PointerEdgesTest {
     }
 
     private static void nothingAtFirst() {
-        DUE.sentence("T1", "There are 6 DOCUMENTS, numbered from 0, each with a VALUE, NOTHING at first");
+        DUE.sentence("T1", "numbered from 0, each with a VALUE, NOTHING at first");
         MarlStore x = new MarlStore();
         for (int i = 0; i < 6; i++) {
             DUE.call(x, 0, "point", i);
@@ -329,7 +329,7 @@ public final class PointerEdgesTest {
 
     /** In between the PATH is not RIGHT, but behind the whole call it is again. */
     private static void losesNoneInBetween() {
-        DUE.sentence("T1", "is changed by whatever call, and its PATH is not RIGHT any more behind that");
+        DUE.sentence("T1", "by whatever call, and its PATH is not RIGHT any more behind that");
         MarlStore x = new MarlStore();
         x.addPatch();
         x.addOperation(0, DROP, 0);

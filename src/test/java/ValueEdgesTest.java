@@ -113,9 +113,12 @@ public final class ValueEdgesTest {
         Build.document(x, 0, Build.list(49, "n"));
         DUE.call(x, 50, "set", 2, 5);
         Build.document(x, 0, "[[n,n],n]");
+        Build.document(x, 1, "[t]");
         Build.at(x, 0, 0);
-        DUE.call(x, 3, "set", 0, 0);
+        DUE.call(x, 3, "set", 2, -9999);
         DUE.call(x, 3, "size", 0);
+        DUE.reads(x, 0, "[-9999,n]");
+        DUE.reads(x, 1, "[t]");
     }
 
     private static void copyOfTheGreatest() {
